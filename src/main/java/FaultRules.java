@@ -27,10 +27,10 @@ public final class FaultRules {
     private static final int ALL_RULES = (1 << MOST_RULES) - 1;
 
     /*
-     * A rule stops holding only in a minute of a row or in the one behind it (where a jump ends),
-     * so it has at most twice as many stretches as there are rows, and one that lasts to the end.
+     * A rule with a jump holds in minutes of rows alone, and one without stops holding in such minutes
+     * alone: so a rule has at most one stretch for each row, and one that lasts to the end of the run.
      */
-    private static final int MOST_FAULTS = MOST_RULES * (2 * MOST_ROWS + 1);
+    private static final int MOST_FAULTS = MOST_RULES * (MOST_ROWS + 1);
 
     /* What a word is; those from LESS to SILENT are what a test is, too. */
     private static final int END = 0;

@@ -408,17 +408,18 @@ public final class PromiseTests {
     private static void promise7MostFaults() {
         StringBuilder text = new StringBuilder();
         for (char c = 'a'; c < 'g'; c++) {
-            text.append(c).append(":stuck p0 1&silent p0 0 for 1 costs ").append(c - 'a' + 1).append(";");
+            text.append(c).append(":silent p0 0 for 1 costs ").append(c - 'a' + 1).append(";");
         }
         FaultRules x = withRules(text.toString());
         for (int k = 0; k < 120; k++) {
             x.row(0, 3 * k + 1, k);
         }
-        due("a stretch behind each row, six times", () -> x.run(0, 1999), 720);
+        due("a stretch round each row, six times", () -> x.run(0, 1999), 726);
         due("the dearest", () -> x.fault(0, 3), (1999 - 358) * 6);
-        due("the last", () -> x.fault(719, 1), 3 * 118 + 2);
-        due("behind the last", () -> x.fault(720, 1), -1);
-        due("money", () -> x.money(), (119 * 2 + 1999 - 358) * 21);
+        due("the last", () -> x.fault(725, 1), 0);
+        due("the last but one", () -> x.fault(724, 0), 1);
+        due("behind the last", () -> x.fault(726, 1), -1);
+        due("money", () -> x.money(), (1 + 119 * 2 + 1999 - 358) * 21);
     }
 
     private static void promise8Fault() {
