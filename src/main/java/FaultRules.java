@@ -95,7 +95,7 @@ public final class FaultRules {
             throw new IllegalArgumentException("no such point, minute or value");
         }
         if (rows.isFull() || !rows.isBehindLast(point, minute)) {
-            throw new IllegalStateException("the row comes too late, or there are too many");
+            throw new IllegalStateException("the row is not behind the latest one, or there are too many");
         }
         return rows.add(point, minute, value);
     }
