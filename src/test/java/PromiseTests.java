@@ -4,81 +4,9 @@ import java.lang.reflect.Method;
 import java.lang.reflect.Modifier;
 import java.util.Arrays;
 import java.util.TreeSet;
-import java.util.concurrent.Callable;
 
 /** Each promise of the document: ordinary inputs, the edges that it names, and wrong inputs. */
-public final class PromiseTests {
-    private static final String ARGUMENT = "throws.IllegalArgumentException";
-    private static final String STATE = "throws.IllegalStateException";
-    private static int checks = 0;
-    private static int wrong = 0;
-
-    private static void due(String what, Callable<Object> call, Object want) {
-        String got;
-        try {
-            got = String.valueOf(call.call());
-        } catch (Throwable e) {
-            got = "throws." + e.getClass().getSimpleName();
-        }
-        checks++;
-        if (!got.equals(String.valueOf(want))) {
-            wrong++;
-            System.out.println(what + " answered " + got + ", due is " + want);
-        }
-    }
-
-    /** Characters as the word of one say. */
-    private static long word(String characters) {
-        long word = 0;
-        for (char c : characters.toCharArray()) {
-            word = word << 8 | c;
-        }
-        return word;
-    }
-
-    private static void sayAll(FaultRules x, String text) {
-        for (int at = 0; at < text.length(); at += 8) {
-            x.say(word(text.substring(at, Math.min(text.length(), at + 8))));
-        }
-    }
-
-    /** What rules() answers for a text on a new object. */
-    private static void dueRules(String text, int want) {
-        FaultRules x = new FaultRules();
-        sayAll(x, text);
-        due("rules of '" + text + "'", () -> x.rules(), want);
-        due("text left of '" + text + "'", () -> x.trim(0), want >= 0 ? 0 : text.length());
-    }
-
-    /** A test alone in a rule, read. */
-    private static FaultRules withRules(String text) {
-        FaultRules x = new FaultRules();
-        sayAll(x, text);
-        due("rules of '" + text + "'", () -> x.rules() > 0, true);
-        return x;
-    }
-
-    private static FaultRules withTest(String test) {
-        return withRules("a: " + test + " for 1 costs 1;");
-    }
-
-    private static void dueHolds(FaultRules x, String test, int minute, boolean want) {
-        due(test + " holds at " + minute, () -> x.holds(0, 0, minute), want);
-    }
-
-    private static void dueFault(FaultRules x, int k, int rule, int begin, int end, int cost) {
-        due("rule of fault " + k, () -> x.fault(k, 0), rule);
-        due("beginning of fault " + k, () -> x.fault(k, 1), begin);
-        due("end of fault " + k, () -> x.fault(k, 2), end);
-        due("cost of fault " + k, () -> x.fault(k, 3), cost);
-    }
-
-    private static void dueNoRun(FaultRules x) {
-        due("fault without a run", () -> x.fault(0, 0), STATE);
-        due("money without a run", () -> x.money(), STATE);
-        due("causes without a run", () -> x.causes(), STATE);
-    }
-
+public final class PromiseTests extends Checks {
     private static void face() {
         TreeSet<String> got = new TreeSet<>();
         for (Constructor<?> c : FaultRules.class.getDeclaredConstructors()) {
@@ -588,12 +516,6 @@ public final class PromiseTests {
         due("not only in a run", () -> x.holds(0, 0, 50), true);
     }
 
-    private static void dueLine(FaultRules x, int from, int to, long up, long low, long minutes) {
-        due("up " + from + " .. " + to, () -> x.line(0, 1, from, to, 0), up);
-        due("low " + from + " .. " + to, () -> x.line(0, 1, from, to, 1), low);
-        due("minutes " + from + " .. " + to, () -> x.line(0, 1, from, to, 2), minutes);
-    }
-
     private static void promise12Line() {
         FaultRules x = new FaultRules();
         x.row(0, 10, 5);
@@ -774,9 +696,6 @@ public final class PromiseTests {
         promise13Leave();
         promise14Cause();
         promise15Causes();
-        System.out.println(checks + " answers, " + wrong + " not as due");
-        if (wrong != 0) {
-            System.exit(1);
-        }
+        finish();
     }
 }
