@@ -208,6 +208,17 @@ public final class BoundaryTests extends Checks {
             return y.rules();
         }, 6);
         dueRules(repeated(";", 1000, ""), -1);
+        dueRules(repeated("a", 1000, ""), -1);
+        dueRules(repeated("1", 1000, ""), -1);
+        String blanks = repeated(" ", 992, "");
+        dueRules(blanks + "abcdefgh", -1 - 1);
+        dueRules(blanks + "a:     p", -1 - 2);
+        dueRules(blanks + "a:stuck ", -1 - 3);
+        dueRules(blanks + "a :   p1", -1 - 3);
+        dueRules(blanks + "a:p1   <", -1 - 4);
+        dueRules(blanks + "a:p1  <=", -1 - 4);
+        dueRules(blanks + "a:p1<123", -1 - 5);
+        dueRules(blanks + "a:p1<1 f", -1 - 5);
     }
 
     private static void sixRulesPerhapsNone() {
@@ -1007,6 +1018,14 @@ public final class BoundaryTests extends Checks {
         }
     }
 
+    /** What rules() answers for a text without its last characters. */
+    private static void dueTrimmed(String text, int n, int want) {
+        FaultRules x = new FaultRules();
+        sayAll(x, text);
+        due("'" + text + "' less " + n, () -> x.trim(n), text.length() - n);
+        due("rules of '" + text + "' less " + n, () -> x.rules(), want);
+    }
+
     private static void promise5Trim() {
         about("Promise 5: The last n characters of the text go: how many it has. Illegal argument: n is below 0, or more than there are.");
         FaultRules x = new FaultRules();
@@ -1019,6 +1038,17 @@ public final class BoundaryTests extends Checks {
         due("the last two", () -> x.trim(2), 28);
         due("the rest is as it was", () -> x.rules(), 1);
         due("rules leave no text", () -> x.trim(1), ARGUMENT);
+        dueTrimmed("abcdefghi", 1, -1 - 1);
+        dueTrimmed("a:p15 5", 2, -1 - 3);
+        dueTrimmed("a:p155", 1, -1 - 3);
+        dueTrimmed("a:p1a", 1, -1 - 3);
+        dueTrimmed("a:pa", 1, -1 - 2);
+        dueTrimmed("a:p1<10000000", 1, -1 - 5);
+        dueTrimmed("a:p1<1 fork", 1, -1 - 6);
+        dueTrimmed("a:p1<=1", 2, -1 - 4);
+        dueTrimmed("a:p1<1 for 1 costs 1;;", 1, 1);
+        dueTrimmed("a:p1<1 for 1 costs 1; b", 1, 1);
+        dueTrimmed("a:p1<1 for 1 costs 1;b", 1, 1);
         sayAll(x, repeated("a", 1000, ""));
         due("1001 of 1000", () -> x.trim(1001), ARGUMENT);
         due("all of 1000", () -> x.trim(1000), 0);
